@@ -1184,9 +1184,9 @@ public final class GondolaTold {
         int bestTelling(Night night, int r) {
             int left = tonguesLeft(night, r);
             int kind = night.rowers[r].kind;
-            best = NONE;
-            for (int dark = 0; dark <= MOST_DARK; dark++) {
-                for (int gone = 0; gone <= LAST_GONE; gone++) {
+            startOver();
+            for (int dark = 0; dark <= MOST_DARK && isOpen(); dark++) {
+                for (int gone = 0; gone <= LAST_GONE && isOpen(); gone++) {
                     for (int t = 0; t < TONGUES; t++) {
                         answers[t] = isIn(left, t) ? Rower.toldBy(kind, t, dark, gone) : NONE;
                     }
@@ -1199,9 +1199,9 @@ public final class GondolaTold {
         int bestAsking(Night night, int r) {
             int left = rowerKindsLeft(night, r);
             int tongue = night.rowers[r].tongue;
-            best = NONE;
-            for (int dark = 0; dark <= MOST_DARK; dark++) {
-                for (int gone = 0; gone <= LAST_GONE; gone++) {
+            startOver();
+            for (int dark = 0; dark <= MOST_DARK && isOpen(); dark++) {
+                for (int gone = 0; gone <= LAST_GONE && isOpen(); gone++) {
                     for (int kind = 0; kind < KINDS; kind++) {
                         answers[kind] = isIn(left, kind) ? Rower.toldBy(kind, tongue, dark, gone) : NONE;
                     }
@@ -1214,9 +1214,9 @@ public final class GondolaTold {
         int bestLook(Night night, int g) {
             int left = guestKindsLeft(night, g);
             Guest guest = night.guests[g];
-            best = NONE;
-            for (int dark = 0; dark <= MOST_DARK; dark++) {
-                for (int m = 0; m <= LAST_TOLD; m++) {
+            startOver();
+            for (int dark = 0; dark <= MOST_DARK && isOpen(); dark++) {
+                for (int m = 0; m <= LAST_TOLD && isOpen(); m++) {
                     for (int kind = 0; kind < KINDS; kind++) {
                         answers[kind] = isIn(left, kind)
                                 ? Guest.hurtOf(kind, guest.hope, guest.knows, m, dark) : NONE;
@@ -1231,10 +1231,20 @@ public final class GondolaTold {
             return (bits & 1 << i) != 0;
         }
 
+        private void startOver() {
+            best = NONE;
+            fewest = TONGUES + 1;
+        }
+
+        /** No try is better than one by which each answers apart. */
+        private boolean isOpen() {
+            return fewest > 1;
+        }
+
         /** Takes the try at hand for the best, if it is better than all ahead of it. */
         private void weigh(int code, int size) {
             int crowd = largestCrowd(size);
-            if (crowd > 0 && (best == NONE || crowd < fewest)) {
+            if (crowd > 0 && crowd < fewest) {
                 best = code;
                 fewest = crowd;
             }
@@ -1244,9 +1254,12 @@ public final class GondolaTold {
         private int largestCrowd(int size) {
             int largest = 0;
             for (int i = 0; i < size; i++) {
+                if (answers[i] == NONE) {
+                    continue;
+                }
                 int alike = 0;
                 for (int j = i; j < size; j++) {
-                    if (answers[i] != NONE && answers[j] == answers[i]) {
+                    if (answers[j] == answers[i]) {
                         alike++;
                     }
                 }
