@@ -1401,14 +1401,16 @@ public final class GondolaTold {
         private int number;
         private final int[] values = new int[3];
 
-        /** How many items there are; NONE: the token at hand can not stand there. */
+        /**
+         * How many items there are; NONE: the token at hand can not stand there. The first item, a water, begins
+         * the night anew, so nothing of what was in it matters.
+         */
         int build(Night night, byte[] text, int textLength) {
             length = Math.min(textLength, MOST_BYTES);
             for (int i = 0; i < length; i++) {
                 bytes[i] = text[i];
             }
             at = 0;
-            night.begin(0);
             advance();
             int items = 0;
             while (items < MOST_BYTES && (token != END || items == 0)) {
@@ -1417,7 +1419,6 @@ public final class GondolaTold {
                 }
                 items++;
             }
-            night.past.size = 0;
             return items;
         }
 

@@ -249,6 +249,8 @@ public final class WaterTest {
             {"water 3;guest 0 9;rower 0 9;canal 0 1 1;row 0 0 8;", 48},
             {"water 3;guest 0 9;rower 0 9;canal 0 7 1;row 0 0 7;row 0 0 0;", 58}, {"water 3;rows 0 0 0;", 8},
             {"water 3;dark 1 2;rowe 0 0;", 17},
+            {"water 3 456;", 8}, {"xater 3;", 0}, {"water 3;bark 1 2;", 8}, {"water 3;dark 1 2#", 16},
+            {"water 3;dark 1 #;", 15}, {"water 9;dark 0 9;canal 0 7 9;guest 5 40;rower 5 9;row 0 0 7;dark", 64},
         };
         for (Object[] row : texts) {
             GondolaTold x = new GondolaTold();
