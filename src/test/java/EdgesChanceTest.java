@@ -415,6 +415,15 @@ public final class EdgesChanceTest {
         }
     }
 
+    /** X is 1806697686 by SEED 241, just above 1723 times 1048576, and 1709177484 by SEED 959, just below 1630 times. */
+    private static void whatIsDrawnIsCut() {
+        Edge.says(0, "to PLACE X by 1048576 (cut), by 8 left over");
+        GondolaTold x = Edge.water("water 6;canal 0 3 1;rower 0 0;rower 0 9;guest 0 9;");
+        Edge.due("GUEST 0 by ROWER 1 to PLACE 3", x.nights(241, 1), 1);
+        GondolaTold y = Edge.water("water 6;canal 0 5 1;rower 0 9;guest 0 9;guest 0 9;guest 0 9;guest 0 9;");
+        Edge.due("GUEST 3 by ROWER 0 to PLACE 5", y.nights(959, 1), 1);
+    }
+
     private static void whoIsDrawn() {
         Edge.says(0, "GUEST X by 65536 (cut), by 4 left over, is ROWED by ROWER X by 262144 (cut), by 3 left over, to PLACE X by"
                 + " 1048576 (cut), by 8 left over, if all are there and it CAN be;");
@@ -428,6 +437,14 @@ public final class EdgesChanceTest {
         Edge.due("guest 2 is not there", few.nights(1, 1), 0);
         GondolaTold none = Edge.water("water 6;canal 0 4 1;guest 0 9;guest 0 9;guest 0 9;");
         Edge.due("rower 0 is not there", none.nights(1, 1), 0);
+        // One who was there ahead of a water is not there any more.
+        for (int seed = 1; seed < 40; seed++) {
+            GondolaTold gone = Edge.water("water 6;rower 0 9;rower 0 9;rower 0 9;guest 0 9;");
+            Edge.read(gone, "water 6;canal 0 1 1;canal 0 2 1;canal 0 4 1;canal 0 3 1;guest 0 9;guest 0 9;guest 0 9;guest 0 9;");
+            Edge.due("no rower is there", gone.nights(seed, 60), 0);
+            gone.rower(0, 0);
+            Edge.due("one is there who tells nothing", gone.nights(seed, 60), 0);
+        }
         GondolaTold cut = Edge.water("water 6;rower 0 9;guest 0 9;guest 0 9;guest 0 9;");
         Edge.due("there is no canal", cut.nights(1, 1), 0);
     }

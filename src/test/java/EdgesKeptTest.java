@@ -23,6 +23,41 @@ public final class EdgesKeptTest {
         }
     }
 
+    /** All that was kept is put over by other things first. */
+    private static void imagesKeepWhatIsPutOver() {
+        Edge.says(0, "IMAGES 0, 1 keep all");
+        for (int i = 0; i < 2; i++) {
+            GondolaTold x = Edge.full();
+            x.image(i);
+            List<Long> want = undone(x);
+            x.water(9);
+            x.canal(0, 1, 3);
+            for (int n = 0; n < 6; n++) {
+                x.rower(5, 9);
+                x.guest(5, 40);
+                x.seen(2, 9, 98, 97);
+                x.note(3, 40, 39, 19, 9, 58);
+                x.mark(2, 8, 9, 98, 97);
+            }
+            for (int n = 1; n <= 8; n++) {
+                x.rows(0, 2, n % 2);
+            }
+            Edge.due("from(" + i + ")", x.from(i), 1);
+            Edge.due("all is as it was, and what may be undone", undone(x).equals(want) ? 1 : 0, 1);
+        }
+    }
+
+    /** What all is like, step by step undone. */
+    private static List<Long> undone(GondolaTold x) {
+        List<Long> seen = new ArrayList<>();
+        seen.add(x.digest());
+        for (int i = 0; i < 9; i++) {
+            seen.add((long) x.undo());
+            seen.add(x.digest());
+        }
+        return seen;
+    }
+
     private static void imagesKeepNoImages() {
         Edge.says(0, "keep all but them");
         GondolaTold x = Edge.rich();
@@ -63,24 +98,16 @@ public final class EdgesKeptTest {
         Edge.says(0, "what may be undone they keep;");
         GondolaTold x = Edge.full();
         x.image(1);
-        List<Long> want = new ArrayList<>();
-        for (int i = 0; i < 9; i++) {
-            want.add((long) x.undo());
-            want.add(x.digest());
-        }
+        List<Long> want = undone(x);
         for (int time = 0; time < 2; time++) {
             x.from(1);
-            for (int i = 0; i < 9; i++) {
-                Edge.due("undo()", x.undo(), want.get(2 * i));
-                Edge.due("digest()", x.digest(), want.get(2 * i + 1));
-            }
+            Edge.due("it is undone as before", undone(x).equals(want) ? 1 : 0, 1);
         }
         x.from(1);
         x.undo();
         x.rows(0, 0, 7);
         x.from(1);
-        Edge.due("it is no other for what came of it", x.undo(), want.get(0));
-        Edge.due("digest()", x.digest(), want.get(1));
+        Edge.due("it is no other for what came of it", undone(x).equals(want) ? 1 : 0, 1);
     }
 
     private static void itGoesOnFromAnImage() {

@@ -293,7 +293,27 @@ public final class EdgesTextTest {
         fault("water 4;guest 0 0;", 16);
         fault("water 4;guest 0 41;", 16);
         fault("water 4;canal 0 7 9;rower 0 1;guest 0 9;row 0 0 8;", 48);
+        fault("water 4;canal 0 1 9;rower 0 1;guest 0 9;row 0 0 8;", 48);
         fault("water 4;canal 0 7 9;rower 0 1;guest 0 9;row 0 0 99;", 48);
+    }
+
+    private static void aNumberFarFromWhatIsTold() {
+        Edge.says(0, "a number not as told");
+        for (int n = 41; n <= 99; n += 29) {
+            fault("water " + n + ";", 6);
+            fault("water 4;dark " + n + " 0;", 13);
+            fault("water 4;dark 0 " + n + ";", 15);
+            fault("water 4;canal " + n + " 0 1;", 14);
+            fault("water 4;canal 0 " + n + " 1;", 16);
+            fault("water 4;canal 0 1 " + n + ";", 18);
+            fault("water 4;rower " + n + " 0;", 14);
+            fault("water 4;rower 0 " + n + ";", 16);
+            fault("water 4;guest " + n + " 1;", 14);
+            fault("water 4;guest 0 " + n + ";", 16);
+            fault("water 4;canal 0 7 9;rower 0 1;guest 0 9;row " + n + " 0 7;", 44);
+            fault("water 4;canal 0 7 9;rower 0 1;guest 0 9;row 0 " + n + " 7;", 46);
+            fault("water 4;canal 0 7 9;rower 0 1;guest 0 9;row 0 0 " + n + ";", 48);
+        }
     }
 
     private static void alikePlaces() {
@@ -311,6 +331,8 @@ public final class EdgesTextTest {
         fault("water 4;canal 0 1 1;guest 0 9;rower 0 1;row 1 0 1;", 44);
         fault("water 4;canal 0 1 1;guest 0 9;rower 0 1;row 0 1 1;", 46);
         fault("water 4;canal 0 1 1;guest 0 9;rower 0 1;row 4 3 1;", 44);
+        fault("water 4;canal 0 1 1;guest 0 9;rower 0 1;row 2 0 1;", 44);
+        fault("water 4;canal 0 1 1;guest 0 9;rower 0 1;row 0 2 1;", 46);
         reads("water 4;canal 0 1 1;guest 0 9;guest 0 9;rower 0 1;rower 0 1;row 1 1 1;", 7);
     }
 

@@ -58,6 +58,12 @@ public final class EdgesWaysTest {
         Edge.due("the farthest there is", x.far(4, 3), 63);
         Edge.due("and back", x.far(3, 4), 63);
         Edge.due("one goes through the Salute, too", x.far(2, 0), 18);
+        GondolaTold row = new GondolaTold();
+        for (int p = 0; p < 7; p++) {
+            row.canal(p, p + 1, 1 + p);
+        }
+        Edge.due("rising", row.far(0, 7), 28);
+        Edge.due("falling", row.far(7, 0), 28);
     }
 
     private static void farOfTheSame() {
@@ -201,6 +207,11 @@ public final class EdgesWaysTest {
         dueWay("by 2, though it is long", x, 0, 0, 9, 9, 18, 2, 2, 7);
         x.dark(1, 5);
         dueWay("by 1, it hurts as much", x, 0, 0, 9, 9, 2, 2, 1, 7);
+        x.dark(2, 4);
+        x.canal(2, 7, 1);
+        x.canal(0, 2, 1);
+        x.canal(0, 1, 9);
+        dueWay("by 1, though it is long", x, 0, 0, 9, 9, 10, 2, 1, 7);
     }
 
     private static void wayOfTheFewestStrokes() {
@@ -311,6 +322,11 @@ public final class EdgesWaysTest {
         Edge.due("by 2, in the dark", x.gentle(0, 0), 10);
         Edge.due("straight on", x.gentle(1, 0), 5);
         Edge.due("VAIN", x.gentle(2, 0), 16);
+        x.dark(1, 8);
+        x.dark(2, 2);
+        Edge.due("by 1, now that it is dark there", x.gentle(0, 0), 10);
+        x.dark(1, 2);
+        x.dark(2, 8);
         x.canal(2, 7, 0);
         Edge.due("by 1 alone is one told all", x.gentle(0, 0), 15);
         Edge.due("straight on", x.gentle(1, 0), 5);

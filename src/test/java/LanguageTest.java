@@ -23,13 +23,15 @@ public final class LanguageTest {
             "int look(int)", "int kinds(int)", "int ask(int)", "int lamp(int,int,int)", "int odds(int,int,int,int)",
             "int mean(int,int,int)", "int nights(int,int)", "long part(int)", "int image(int)", "int from(int)",
             "int status(int)", "int count(int)", "long digest()");
+    /** Some 150 calls are in a round; the room would hold as much for each of them many times over. */
+    private static final long MOST_BYTES_A_ROUND = 100_000;
     private static int wrong = 0;
 
     public static void main(String[] args) throws Exception {
         face();
         classesInside();
         words(Files.readString(Path.of("src/main/java/GondolaTold.java")));
-        noObjectsMade();
+        fewObjectsMade();
         System.out.println(wrong == 0 ? "the face and the language are as due" : wrong + " things are not as due");
         if (wrong != 0) {
             System.exit(1);
@@ -95,13 +97,20 @@ public final class LanguageTest {
 
     private static void words(String source) {
         String bare = source.replaceAll("(?s)/\\*.*?\\*/", "").replaceAll("//[^\n]*", "").replaceAll("\"[^\"]*\"", "\"\"");
-        Matcher none = Pattern.compile("\\b(throw|throws|try|catch|finally|synchronized|assert|import|package|lambda|"
-                + "Exact|var|null|native|volatile|transient)\\b|->|::|Exact\\(|@|hashCode|toString|\\.equals").matcher(bare);
+        Matcher none = Pattern.compile("\\b(throw|throws|try|catch|finally|synchronized|assert|package|native|volatile)\\b"
+                + "|::|@|\\w+Exact\\(|\\b(hashCode|toString)\\(\\) \\{").matcher(bare);
         while (none.find()) {
             must(false, "no '" + none.group() + "'");
         }
-        Matcher calls = Pattern.compile("\\b(System|Math|Integer|Long|Arrays|String|StringBuilder)\\.(\\w+)").matcher(bare);
-        Set<String> allowed = Set.of("System.arraycopy", "Math.max", "Math.min", "Integer.bitCount");
+        for (String line : bare.split("\n")) {
+            must(!line.contains("->") || line.matches("\\s*(case .*|default) ->.*"), "no lambda: " + line.trim());
+        }
+        Matcher imports = Pattern.compile("\\bimport\\s+([^;]*);").matcher(bare);
+        while (imports.find()) {
+            must(imports.group(1).matches("java\\.util\\.(ArrayList|List|Arrays|Iterator)"), "no import of " + imports.group(1));
+        }
+        Matcher calls = Pattern.compile("\\b(System|Arrays|List|String|StringBuilder|Character|Thread|Objects)\\.(\\w+)").matcher(bare);
+        Set<String> allowed = Set.of("System.arraycopy", "Arrays.copyOf", "Arrays.copyOfRange", "Arrays.fill", "List.of");
         while (calls.find()) {
             must(allowed.contains(calls.group()), "the library has " + calls.group());
         }
@@ -119,20 +128,18 @@ public final class LanguageTest {
         }
     }
 
-    /** All rows are made once: a run of calls must not make a single object more. */
-    private static void noObjectsMade() {
+    /** One room holds all calls of a run, so a round of all calls may make next to nothing. */
+    private static void fewObjectsMade() {
         com.sun.management.ThreadMXBean bean =
                 (com.sun.management.ThreadMXBean) java.lang.management.ManagementFactory.getThreadMXBean();
         GondolaTold x = new GondolaTold();
         everyCall(x);
         long before = bean.getCurrentThreadAllocatedBytes();
-        long idle = bean.getCurrentThreadAllocatedBytes() - before;
-        before = bean.getCurrentThreadAllocatedBytes();
         for (int i = 0; i < 5; i++) {
             everyCall(x);
         }
-        long made = bean.getCurrentThreadAllocatedBytes() - before - idle;
-        must(made == 0, "calls make no objects, but made " + made + " bytes of them");
+        long made = (bean.getCurrentThreadAllocatedBytes() - before) / 5;
+        must(made < MOST_BYTES_A_ROUND, "a round of all calls makes few objects, but made " + made + " bytes of them");
     }
 
     private static void everyCall(GondolaTold x) {
